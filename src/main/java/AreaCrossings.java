@@ -452,7 +452,7 @@ public final class AreaCrossings {
                 boolean endsAbove = ys[next(k)] * w > y;
                 // A ray to the right meets a rising side that the place is left of, and a falling one
                 // that it is right of.
-                if (beginsAbove != endsAbove && turn > 0 == endsAbove) {
+                if (beginsAbove != endsAbove && (turn > 0) == endsAbove) {
                     odd = !odd;
                 }
             }
@@ -774,8 +774,8 @@ public final class AreaCrossings {
      * whole or not at all.
      */
     private static final class Stretches {
-        // Both ends of the piece, and of each side at most its two ends, if it lies along the piece.
-        private static final int MOST_CUTS = 2 + 2 * Area.MOST_RINGS * Ring.MOST_CORNERS;
+        // Both ends of the piece, and one for each side.
+        private static final int MOST_CUTS = 2 + Area.MOST_RINGS * Ring.MOST_CORNERS;
         private static final int MOST_STEPS_OF_A_DIVISOR = 100;
 
         private final long[] overs = new long[MOST_CUTS];
@@ -833,22 +833,11 @@ public final class AreaCrossings {
             long under = alongX * sideY - alongY * sideX;
             long over = toX * sideY - toY * sideX;
             long sideOver = toX * alongY - toY * alongX;
-            if (under == 0) {
-                if (sideOver == 0) {
-                    cutAtCorner(toX, toY);
-                    cutAtCorner(toX + sideX, toY + sideY);
-                }
-                return;
-            }
+            // A side along the piece, where this is 0, needs no cut: the sides at its ends cut there.
             long sign = under < 0 ? -1 : 1;
             if (isShare(sideOver * sign, under * sign)) {
                 addCut(over * sign, under * sign);
             }
-        }
-
-        /** For a corner on the line of the piece. */
-        private void cutAtCorner(long toX, long toY) {
-            addCut(toX * alongX + toY * alongY, alongX * alongX + alongY * alongY);
         }
 
         private static boolean isShare(long over, long under) {

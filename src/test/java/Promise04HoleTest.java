@@ -22,6 +22,9 @@ final class Promise04HoleTest {
         check.due("hole of a reported area", Check.rectangleHole(x, 1, 98, 98, 102, 102), true);
         check.due("cell in it", x.cell(100, 100, 0), 0);
         check.due("cell on its ring", x.cell(98, 100, 0), 1);
+        check.due("its second hole", Check.rectangleHole(x, 1, 96, 96, 97, 97), true);
+        check.due("its third hole", Check.rectangleHole(x, 1, 103, 103, 104, 104), true);
+        check.due("no fourth one", x.hole(1), false);
         dueAreaStaysWhileOneIsMade(check);
         check.end();
     }

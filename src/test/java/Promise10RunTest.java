@@ -15,7 +15,9 @@ final class Promise10RunTest {
         dueGaps(check);
         dueStandingStill(check);
         dueOrder(check);
+        dueManyCuts(check);
         dueTooMany(check);
+        dueOneTooMany(check);
         dueKept(check);
         check.end();
     }
@@ -202,6 +204,58 @@ final class Promise10RunTest {
         check.dueCrossings("smaller", x, "0:0+5/6 0:1+5/6");
         check.due("too many again", x.run(0, 0), -4);
         check.dueCrossings("the ones before stay", x, "0:0+5/6 0:1+5/6");
+    }
+
+    private static long[] movedComb(long byX, long byY) {
+        long[] moved = COMB.clone();
+        for (int i = 0; i + 1 < moved.length; i += 2) {
+            moved[i] += byX;
+            moved[i + 1] += byY;
+        }
+        return moved;
+    }
+
+    /** One piece through an area with as many holes as can be, of as many corners as can be. */
+    private static void dueManyCuts(Check check) {
+        AreaCrossings x = barred(0, 0, 100, 0, 100, 20, 0, 20);
+        for (int i = 0; i < 3; i++) {
+            check.due("comb " + i, x.hole(0) && Check.closed(x, 0, movedComb(50 - 20 * i, 2)), true);
+        }
+        dueRun(check, x, "0:0+1/12 0:0-1/6 0:0+11/60 0:0-1/5 0:0+13/60 0:0-7/30 0:0+1/4"
+            + " 0:0-1/3 0:0+7/20 0:0-11/30 0:0+23/60 0:0-2/5 0:0+5/12"
+            + " 0:0-1/2 0:0+31/60 0:0-8/15 0:0+11/20 0:0-17/30 0:0+7/12 0:0-11/12", 0, -10, 7, 60, 110, 7);
+    }
+
+    private static AreaCrossings combsSideBySide() {
+        AreaCrossings x = new AreaCrossings(2);
+        Check.closed(x, 0, COMB);
+        Check.closed(x, 1, movedComb(20, 0));
+        x.bars(0, 0, 0, 0);
+        x.bars(1, 0, 0, 0);
+        x.track();
+        return x;
+    }
+
+    private static void dueOneTooMany(Check check) {
+        AreaCrossings x = combsSideBySide();
+        for (int i = 0; i < 26; i++) {
+            x.place(0, i, i % 2 == 0 ? -5 : 35, 5);
+        }
+        check.due("25 pieces", x.run(0, 0), 300);
+        x.place(0, 26, 29, 5);
+        check.due("301, as one enters", x.run(0, 0), -4);
+        check.due("300 stay", x.side(299), 0);
+        AreaCrossings y = combsSideBySide();
+        y.place(0, 0, -5, 5);
+        y.place(0, 1, 1, 5);
+        // Behind the gap it is outside again, without having left.
+        for (int i = 0; i < 25; i++) {
+            y.place(0, 4000 + i, i % 2 == 0 ? -5 : 35, 5);
+        }
+        check.due("289", y.run(0, 0), 289);
+        y.place(0, 4025, 35, 5);
+        check.due("301, as one leaves", y.run(0, 0), -4);
+        check.due("289 stay", y.side(289), -1);
     }
 
     private static void dueKept(Check check) {

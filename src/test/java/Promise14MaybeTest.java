@@ -66,6 +66,10 @@ final class Promise14MaybeTest {
         int t = Check.path(x, 0, 90, 90, 3601, 95, 95, 3700, 20, 20, 7400, 20, 20);
         check.due("in the rectangle, out of the area", x.maybe(t, 0), true);
         check.due("in a hole", x.maybe(t, 1), true);
+        AreaCrossings y = new AreaCrossings(1);
+        Check.closed(y, 0, 50, 60, 0, 10, 10, 0);
+        int beyond = Check.path(y, 0, 52, 62, 3601, 52, 62);
+        check.due("at its first corner", y.maybe(beyond, 0), true);
         int diagonal = Check.path(x, 0, -50, 60, 3601, 60, 200);
         check.due("the least rectangle of both places", x.maybe(diagonal, 0), true);
     }
