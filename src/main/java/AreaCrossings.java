@@ -798,7 +798,7 @@ public final class AreaCrossings {
                     begins[size] = i;
                     open = true;
                 }
-                // As an area has its rings, a stretch that goes on behind one cut has the next one too.
+                // The rings belong to the area, so a stretch that goes on behind one cut has the next one too.
                 boolean goesOn = open && i + 1 < cuts && isIn(area, middleOver(i), middleUnder(i));
                 if (open && !goesOn) {
                     ends[size] = i;
@@ -833,7 +833,8 @@ public final class AreaCrossings {
             long under = alongX * sideY - alongY * sideX;
             long over = toX * sideY - toY * sideX;
             long sideOver = toX * alongY - toY * alongX;
-            // A side along the piece, where this is 0, needs no cut: the sides at its ends cut there.
+            // Under is 0 if the side goes the same way as the piece. Even if it lies along the piece it
+            // needs no cut of its own: the sides next to it cut the piece at its ends.
             long sign = under < 0 ? -1 : 1;
             if (isShare(sideOver * sign, under * sign)) {
                 addCut(over * sign, under * sign);
