@@ -27,7 +27,7 @@ final class AgainstPlainModelTest {
     }
 
     public static void main(String[] args) {
-        Check check = new Check();
+        Check check = new Check("the document as a whole");
         for (int number = 0; number < RUNS; number++) {
             new AgainstPlainModelTest(check, number).go();
         }

@@ -29,7 +29,7 @@ final class FaceTest {
         "int cell [int, int, long]");
 
     public static void main(String[] args) throws NoSuchMethodException {
-        Check check = new Check();
+        Check check = new Check("the public face");
         Class<?> face = AreaCrossings.class;
         check.due("final", Modifier.isFinal(face.getModifiers()), true);
         check.due("public", Modifier.isPublic(face.getModifiers()), true);
