@@ -5,6 +5,7 @@ final class Promise15BufferTest {
         dueIn(check);
         dueSoManyUnits(check);
         dueFromACorner(check);
+        dueFarAway(check);
         dueFromASlantedSide(check);
         dueFromEachSide(check);
         dueFromAHole(check);
@@ -64,6 +65,25 @@ final class Promise15BufferTest {
         check.due("-4, -4 from a corner, 6", near(6, -4, -4), 1);
         check.due("4, -3 from a corner", near(5, 14, -3), 1);
         check.due("-3, 4 from a corner", near(5, -3, 14), 1);
+        int[][] beyond = {{-1, -1}, {11, -1}, {11, 11}, {-1, 11}};
+        for (int[] place : beyond) {
+            check.due("1, 1 from a corner, 1", near(1, place[0], place[1]), 0);
+            check.due("1, 1 from a corner, 2", near(2, place[0], place[1]), 1);
+        }
+    }
+
+    /** A square that is far from the line x = y, and places on that line. */
+    private static void dueFarAway(Check check) {
+        check.sentence("or so many units, or fewer, away: each way by itself");
+        long[][] squares = {{50, 0}, {0, 50}, {-50, 0}, {0, -50}};
+        for (long[] corner : squares) {
+            AreaCrossings x = new AreaCrossings(1);
+            Check.rectangle(x, 0, corner[0], corner[1], corner[0] + 10, corner[1] + 10);
+            Check.path(x, 0, 0, 0, 1, 10, 10, 2, 0, 10, 3, 10, 0);
+            check.due("none is 39 away", x.buffer(0, 39), 0);
+            check.due("two are 40 away", x.buffer(0, 40), 2);
+            check.due("two are 50 away", x.buffer(0, 50), 4);
+        }
     }
 
     private static void dueFromASlantedSide(Check check) {

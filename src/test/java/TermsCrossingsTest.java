@@ -1,3 +1,5 @@
+import java.math.BigInteger;
+
 /** The terms on runs, and where a piece enters and leaves an area. */
 final class TermsCrossingsTest {
     private static final long[] SQUARE = {0, 0, 10, 0, 10, 10, 0, 10};
@@ -21,6 +23,8 @@ final class TermsCrossingsTest {
         dueStandingStill(check);
         dueReduced(check);
         dueFinest(check);
+        dueSmallest(check);
+        dueManyFractions(check);
         check.end();
     }
 
@@ -226,5 +230,44 @@ final class TermsCrossingsTest {
         check.sentence("the place is a fraction of the PIECE, reduced: as fine as can be");
         AreaCrossings wide = Check.barred(-200, -200, 199, 200, 200, 199);
         check.dueRun(wide, "0:0+159600/319201 0:0-200/399", 0, -200, 200, 60, 200, -199);
+    }
+
+    private static void dueSmallest(Check check) {
+        check.sentence("the place is a fraction of the PIECE, reduced: SIDES and PIECES of a unit");
+        AreaCrossings x = Check.barred(0, 0, 1, 0, 0, 1);
+        check.dueRun(x, "0:0+1/2", 0, -1, 0, 60, 1, 0);
+        check.dueRun(x, "0:0+0/1 0:0-1/2", 0, 0, 0, 60, 1, 1);
+        check.dueRun(x, "0:0+0/1", 0, 0, 0, 60, 1, 0);
+        check.dueRun(x, "0:0+1/2 0:0-1/2", 0, 1, -1, 60, 1, 1);
+        AreaCrossings flat = Check.barred(0, 0, 5, 0, 5, 1, 0, 1);
+        check.dueRun(flat, "0:0+0/1", 0, 1, 1, 60, 3, 1);
+        check.dueRun(flat, "0:0+0/1", 0, 4, 0, 60, 2, 0);
+        check.dueRun(flat, "0:0+1/2", 0, 1, -1, 60, 1, 1);
+        check.dueRun(flat, "0:0+0/1 0:0-1/2", 0, 4, 1, 60, 6, 1);
+    }
+
+    /** The fractions of one piece are nothing to the next one: each piece here has others. */
+    private static void dueManyFractions(Check check) {
+        check.sentence("for each PIECE that COUNTS, along it: a full TRACK");
+        AreaCrossings x = square();
+        x.track();
+        StringBuilder want = new StringBuilder();
+        for (int i = 0; i < 30; i++) {
+            x.place(0, i, i % 2 == 0 ? -1 - i : 10 + i, 5);
+            if (i > 0) {
+                long length = 10 + 2 * i;
+                // So much of the way is before the square.
+                long before = i % 2 == 1 ? i : i - 1;
+                want.append(i == 1 ? "" : " ").append(i - 1).append(":0+").append(reduced(before, length));
+                want.append(' ').append(i - 1).append(":0-").append(reduced(before + 10, length));
+            }
+        }
+        check.due("run", x.run(0, 0), 58);
+        check.dueCrossings("run", x, want.toString());
+    }
+
+    private static String reduced(long over, long under) {
+        long divisor = BigInteger.valueOf(over).gcd(BigInteger.valueOf(under)).longValueExact();
+        return over / divisor + "/" + under / divisor;
     }
 }
