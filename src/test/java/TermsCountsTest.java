@@ -12,6 +12,7 @@ final class TermsCountsTest {
         dueFastest(check);
         dueStandingStill(check);
         dueFastThere(check);
+        dueAGapIsNone(check);
         check.end();
     }
 
@@ -157,5 +158,18 @@ final class TermsCountsTest {
         x.speed(1, 1001);
         check.due("run", x.run(into(x, 0, 36), 0), 2);
         check.dueCrossings("as fast in the first one alone", x, "0:1+1/2 0:2+1/2");
+    }
+
+    /** 399 units in a little more than an hour: as a gap it does not count, and is asked for as any other. */
+    private static void dueAGapIsNone(Check check) {
+        check.sentence("(a GAP is none)");
+        AreaCrossings x = Check.barred(0, 0, 10, 0, 10, 10, 0, 10);
+        int t = Check.path(x, 0, -199, 5, 3601, 200, 5, 7201, 200, 5, 10_801, 199, 5);
+        for (long least = 0; least <= 398; least += 199) {
+            x.speed(0, least);
+            check.due("maybe with speed " + least, x.maybe(t, 0), true);
+            check.due("inside with speed " + least, x.inside(0, t, 0), 0);
+            check.due("run with speed " + least, x.run(t, 0), 0);
+        }
     }
 }

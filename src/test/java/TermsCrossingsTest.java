@@ -21,6 +21,7 @@ final class TermsCrossingsTest {
         dueAlongASide(check);
         dueInOnBothSides(check);
         dueStandingStill(check);
+        dueNumberedFromZero(check);
         dueReduced(check);
         dueFinest(check);
         dueSmallest(check);
@@ -206,6 +207,17 @@ final class TermsCrossingsTest {
         check.dueRun(x, "", 0, 5, 5, 60, 5, 5);
         check.dueRun(x, "", 0, 50, 5, 60, 50, 5);
         check.dueRun(x, "0:0+1/1 2:0-0/1", 0, 15, 5, 60, 10, 5, 120, 10, 5, 180, 15, 5);
+    }
+
+    private static void dueNumberedFromZero(Check check) {
+        check.sentence("These are CROSSINGS, numbered from 0 on");
+        AreaCrossings x = square();
+        check.due("run", x.run(Check.path(x, 0, -5, 5, 60, 15, 5), 0), 2);
+        int[] sides = {-1, 1, 0, -1};
+        for (int k = -1; k <= 2; k++) {
+            check.due("side(" + k + ")", x.side(k), sides[k + 1]);
+            check.due("entry(" + k + ", 0)", x.entry(k, 0), k < 0 || k > 1 ? -1 : 0);
+        }
     }
 
     private static void dueReduced(Check check) {
