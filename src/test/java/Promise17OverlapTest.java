@@ -5,6 +5,7 @@ final class Promise17OverlapTest {
     public static void main(String[] args) {
         Check check = new Check("promise 17");
         dueNothing(check);
+        dueBarelyApart(check);
         dueSidesMeet(check);
         dueWithin(check);
         dueByOuterRings(check);
@@ -32,6 +33,20 @@ final class Promise17OverlapTest {
         dueBoth(check, "rectangles in common alone", 0, 0, -5, 9, 9, 20, -5, 20);
         dueBoth(check, "around, in a bow", 0, 0, -2, -2, 12, -2, 12, 12, 11, 12, 11, -1, -2, -1);
         dueBoth(check, "a unit beside a corner, slanted", 0, 0, 5, 16, 16, 5, 16, 16);
+    }
+
+    /** A corner that is as near to a slanted side as can be, first on the one side of it and then on the other. */
+    private static void dueBarelyApart(Check check) {
+        check.sentence("0 nothing in common: but a CORNER beside a slanted SIDE");
+        AreaCrossings x = new AreaCrossings(4);
+        Check.closed(x, 0, 0, 0, 3, 2, 0, 2);
+        Check.closed(x, 1, 2, 1, 5, 0, 5, 1);
+        check.due("below it", x.overlap(0, 1), 0);
+        check.due("below it, the other way round", x.overlap(1, 0), 0);
+        Check.closed(x, 2, 0, 0, 3, 2, 3, 0);
+        Check.closed(x, 3, 1, 1, -2, 2, -2, 1);
+        check.due("above it", x.overlap(2, 3), 0);
+        check.due("above it, the other way round", x.overlap(3, 2), 0);
     }
 
     private static void dueSidesMeet(Check check) {

@@ -251,6 +251,9 @@ final class TermsCrossingsTest {
         check.dueRun(x, "0:0+0/1 0:0-1/2", 0, 0, 0, 60, 1, 1);
         check.dueRun(x, "0:0+0/1", 0, 0, 0, 60, 1, 0);
         check.dueRun(x, "0:0+1/2 0:0-1/2", 0, 1, -1, 60, 1, 1);
+        AreaCrossings thin = Check.barred(1, -1, 2, 2, 1, 1);
+        check.dueRun(thin, "0:0+1/2 0:0-2/3", 0, 0, 0, 60, 2, 0);
+        check.dueRun(thin, "0:0+1/3 0:0-1/2", 0, 2, 0, 60, 0, 0);
         AreaCrossings flat = Check.barred(0, 0, 5, 0, 5, 1, 0, 1);
         check.dueRun(flat, "0:0+0/1", 0, 1, 1, 60, 3, 1);
         check.dueRun(flat, "0:0+0/1", 0, 4, 0, 60, 2, 0);
