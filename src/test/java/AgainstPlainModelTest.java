@@ -1,8 +1,13 @@
+import java.util.ArrayList;
+import java.util.Collections;
+import java.util.Comparator;
+import java.util.List;
 import java.util.Random;
 
 /** Many runs of calls, the same each time, against a plainer model of the document. */
 final class AgainstPlainModelTest {
     private static final int RUNS = 600;
+    private static final int SHAPED_RUNS = 300;
     private static final int MOST_CALLS = 512;
     private static final int[] ODD = {Integer.MIN_VALUE, Integer.MIN_VALUE + 1, -1, Integer.MAX_VALUE - 1, Integer.MAX_VALUE};
 
@@ -13,11 +18,15 @@ final class AgainstPlainModelTest {
     private final AreaCrossings x;
     private final PlainModel plain;
     private final long spread;
+    // Rings of many corners that are simple, and places on their corners: chance alone makes few of these.
+    private final boolean shaped;
+    private final List<long[]> corners = new ArrayList<>();
     private int calls = 0;
 
     private AgainstPlainModelTest(Check check, int number) {
         this.check = check;
         this.number = number;
+        shaped = number >= RUNS;
         random = new Random(number);
         areas = random.nextInt(5) == 0 ? random.nextInt(15) - 1 : 1 + random.nextInt(4);
         // Close places, so that sides often touch and lie along pieces; now and then all that there are.
@@ -28,7 +37,7 @@ final class AgainstPlainModelTest {
 
     public static void main(String[] args) {
         Check check = new Check("the document as a whole");
-        for (int number = 0; number < RUNS; number++) {
+        for (int number = 0; number < RUNS + SHAPED_RUNS; number++) {
             new AgainstPlainModelTest(check, number).go();
         }
         check.end();
@@ -113,7 +122,9 @@ final class AgainstPlainModelTest {
         if (random.nextBoolean()) {
             same("hole", t -> bit(x.hole((int) t[0])), t -> bit(plain.hole((int) t[0])), area);
         }
-        if (random.nextBoolean()) {
+        if (shaped && random.nextInt(4) > 0) {
+            makeStar(area);
+        } else if (random.nextBoolean()) {
             makeRectangle(area);
         } else {
             for (int i = random.nextInt(5) == 0 ? 14 : 2 + random.nextInt(5); i > 0; i--) {
@@ -136,6 +147,33 @@ final class AgainstPlainModelTest {
         corner(area, left, top);
     }
 
+    /** Corners around a place, in the order of their directions from it: often a simple ring. */
+    private void makeStar(int area) {
+        long middleX = coordinate();
+        long middleY = coordinate();
+        int reach = 1 + random.nextInt((int) spread);
+        List<long[]> star = new ArrayList<>();
+        for (int i = 3 + random.nextInt(10); i > 0; i--) {
+            star.add(new long[] {middleX + random.nextInt(2 * reach + 1) - reach, middleY + random.nextInt(2 * reach + 1) - reach});
+        }
+        star.sort(Comparator.comparingDouble(c -> StrictMath.atan2(c[1] - middleY, c[0] - middleX)));
+        Collections.rotate(star, random.nextInt(star.size()));
+        if (random.nextBoolean()) {
+            Collections.reverse(star);
+        }
+        for (long[] corner : star) {
+            corner(area, corner[0], corner[1]);
+        }
+        corners.addAll(star);
+    }
+
+    private long[] somewhere() {
+        if (!corners.isEmpty() && random.nextBoolean()) {
+            return corners.get(random.nextInt(corners.size()));
+        }
+        return new long[] {coordinate(), coordinate()};
+    }
+
     private void extendTrack() {
         int track = track();
         if (random.nextInt(3) == 0) {
@@ -144,8 +182,9 @@ final class AgainstPlainModelTest {
         long second = calls * 4000L * (random.nextInt(20) == 0 ? 10_000 : random.nextInt(5) == 0 ? 50 : 1);
         for (int i = random.nextInt(6); i > 0; i--) {
             second += random.nextInt(4) == 0 ? 3598 + random.nextInt(5) : random.nextInt(4) == 0 ? 7201 : 1 + random.nextInt(90);
+            long[] at = somewhere();
             same("place", t -> bit(x.place((int) t[0], t[1], t[2], t[3])),
-                t -> bit(plain.place((int) t[0], t[1], t[2], t[3])), track, second, coordinate(), coordinate());
+                t -> bit(plain.place((int) t[0], t[1], t[2], t[3])), track, second, at[0], at[1]);
         }
     }
 
