@@ -5,6 +5,7 @@ final class Promise03RingTest {
         {0, 0, 10, 0, 5, 0},
         {0, 0, 5, 0, 10, 0},
         {0, 0, 0, 0, 5, 5},
+        {5, 5, 5, 5, 5, 5},
         {0, 0, 5, 5, 0, 0, 5, 0},
         {0, 0, 10, 10, 10, 0, 0, 10},
         {0, 0, 10, 0, 10, 10, 5, 0, 0, 10},
@@ -170,6 +171,7 @@ final class Promise03RingTest {
         dueRefused(check, "in a line", 1, 1, 3, 3, 2, 2);
         dueRefused(check, "crossing", 1, 1, 3, 3, 3, 1, 1, 3);
         dueRefused(check, "a corner twice", 1, 1, 3, 1, 3, 3, 1, 1);
+        dueRefused(check, "one place alone", 2, 2, 2, 2, 2, 2);
         dueRefused(check, "a corner on a side", 1, 1, 5, 1, 5, 4, 3, 1, 1, 4);
     }
 

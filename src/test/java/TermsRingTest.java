@@ -149,6 +149,14 @@ final class TermsRingTest {
                 }
             }
         }
+        // With three of them there is neither a turn nor a pair of sides that are no neighbours.
+        for (int corners = 3; corners <= 12; corners++) {
+            AreaCrossings x = new AreaCrossings(1);
+            for (int k = 0; k < corners; k++) {
+                x.corner(0, 7, -7);
+            }
+            check.due("all " + corners + " corners are one place", x.ring(0), false);
+        }
         dueTurned(check, "the first corner once more at the end", new long[] {0, 0, 9, 0, 9, 9, 0, 0}, false);
         dueTurned(check, "two loops at one corner", new long[] {0, 0, 5, 5, 9, 0, 9, 9, 5, 5, 0, 9}, false);
     }
