@@ -12,7 +12,8 @@ final class Promise10RunTest {
         dueThreeHundred(check);
         dueOneTooManyEntered(check);
         dueOneTooManyLeft(check);
-        dueMostOfOnePiece(check);
+        dueThroughCombs(check);
+        dueAllSides(check);
         dueStayBehindMinusOne(check);
         dueStayBehindMinusTwo(check);
         dueStayBehindMinusFour(check);
@@ -148,8 +149,8 @@ final class Promise10RunTest {
         check.due("and no more", x.side(289), -1);
     }
 
-    private static void dueMostOfOnePiece(Check check) {
-        check.sentence("A RUN: how many CROSSINGS: through as many SIDES as can be");
+    private static void dueThroughCombs(Check check) {
+        check.sentence("A RUN: how many CROSSINGS: through an AREA with three HOLES, each a comb");
         AreaCrossings x = Check.barred(0, 0, 100, 0, 100, 20, 0, 20);
         for (int i = 0; i < 3; i++) {
             check.due("comb " + i, Check.closedHole(x, 0, movedComb(50 - 20 * i, 2)), true);
@@ -157,6 +158,21 @@ final class Promise10RunTest {
         check.dueRun(x, "0:0+1/12 0:0-1/6 0:0+11/60 0:0-1/5 0:0+13/60 0:0-7/30 0:0+1/4"
             + " 0:0-1/3 0:0+7/20 0:0-11/30 0:0+23/60 0:0-2/5 0:0+5/12"
             + " 0:0-1/2 0:0+31/60 0:0-8/15 0:0+11/20 0:0-17/30 0:0+7/12 0:0-11/12", 0, -10, 7, 60, 110, 7);
+    }
+
+    private static void dueAllSides(Check check) {
+        check.sentence("A RUN: how many CROSSINGS: through as many SIDES as can be");
+        AreaCrossings x = Fullest.made(check, 60);
+        StringBuilder want = new StringBuilder();
+        int many = 0;
+        for (Fraction share : Fullest.shares()) {
+            want.append(many == 0 ? "" : " ").append("0:0").append(many % 2 == 0 ? '+' : '-');
+            want.append(share.over()).append('/').append(share.under());
+            many++;
+        }
+        check.due("sides", many, 48);
+        check.due("run", x.run(0, 0), 48);
+        check.dueCrossings("run", x, want.toString());
     }
 
     private static AreaCrossings withOneCrossing(Check check) {

@@ -8,6 +8,7 @@ final class Promise13InsideTest {
         dueCutOfOneStretch(check);
         dueCutToNothing(check);
         dueFinest(check);
+        dueAllSides(check);
         dueGap(check);
         dueAllTogether(check);
         dueNoneTogether(check);
@@ -104,6 +105,23 @@ final class Promise13InsideTest {
         Check.rectangle(y, 0, -200, -200, 200, 200);
         int far = Check.path(y, 0, -200, 200, 3600, 200, -200);
         check.due("from corner to corner", y.inside(0, far, 0), 3_600_000);
+    }
+
+    private static void dueAllSides(Check check) {
+        check.sentence("of each stretch of it cut: 24 of them, as many as can be");
+        AreaCrossings x = Fullest.made(check, 3599);
+        long want = 0;
+        int many = 0;
+        Fraction begin = Fraction.ZERO;
+        for (Fraction share : Fullest.shares()) {
+            if (many % 2 == 1) {
+                Fraction stretch = share.minus(begin).times(Fraction.of(3_599_000));
+                want += stretch.over().divide(stretch.under()).longValueExact();
+            }
+            begin = share;
+            many++;
+        }
+        check.due("inside", x.inside(0, 0, 0), want);
     }
 
     private static void dueGap(Check check) {
